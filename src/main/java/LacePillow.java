@@ -32,8 +32,8 @@ public final class LacePillow {
     private static final int FAULTLESS = -1;
 
     private final Plan plan = new Plan();
-    private final Plan image = new Plan();
-    private final Heap imageHeap = new Heap();
+    private final Plan kept = new Plan();
+    private final Heap keptHeap = new Heap();
     private boolean imaged = false;
     private final Ground ground = new Ground();
     private final Ways ways = new Ways();
@@ -478,18 +478,19 @@ public final class LacePillow {
     }
 
     public int image() {
-        image.copyFrom(plan);
-        imageHeap.copyFrom(done.heap);
+        kept.copyFrom(plan);
+        keptHeap.copyFrom(done.heap);
         imaged = true;
-        return image.worked;
+        return kept.worked;
     }
 
     public int restore() {
         if (!imaged) {
             return fail(NONE);
         }
-        plan.copyFrom(image);
-        settle();
+        plan.copyFrom(kept);
+        regard();
+        replay();
         return plan.worked;
     }
 
@@ -497,7 +498,7 @@ public final class LacePillow {
         if (!imaged) {
             return fail(NONE);
         }
-        return done.heap.isAs(imageHeap) ? 1 : 0;
+        return done.heap.isAs(keptHeap) ? 1 : 0;
     }
 
     public int count(int what) {
@@ -577,28 +578,26 @@ public final class LacePillow {
 
     private void beginAnew() {
         plan.worked = 0;
-        settle();
+        done.clear();
+        workedBits = 0L;
+        regard();
     }
 
-    /** Brings all that follows from the plan up to it. */
-    private void settle() {
+    /** Looks at the plan anew, whatever was known of the one ahead. */
+    private void regard() {
         ground.gather(plan);
         ways.known = false;
         thoughtStitches = -1;
-        replay();
     }
 
     private void replay() {
         done.clear();
         workedBits = 0L;
         for (int i = 0; i < plan.worked; i++) {
-            workOne(plan.work[i]);
+            int s = plan.work[i];
+            done.make(plan, ground.kinds[s], ground.gaps[s]);
+            workedBits |= 1L << s;
         }
-    }
-
-    private void workOne(int s) {
-        done.make(plan, ground.kinds[s], ground.gaps[s]);
-        workedBits |= 1L << s;
     }
 
     /** Works a stitch and answers 0, or the number of the error for which it is refused. */
@@ -610,11 +609,12 @@ public final class LacePillow {
         if (!ground.isFree(s, workedBits)) {
             return STATE;
         }
-        workOne(s);
+        done.make(plan, ground.kinds[s], ground.gaps[s]);
         if (done.leastLacking(plan.wound) >= 0) {
             replay();
             return LACK;
         }
+        workedBits |= 1L << s;
         plan.work[plan.worked] = s;
         plan.worked++;
         return 0;
@@ -632,9 +632,10 @@ public final class LacePillow {
         thoughtStitches = n;
     }
 
+    /** A word alone is as a stitch at gap 0. */
     private void thinkWord(int kind) {
         thought.clear();
-        thought.followWord(plan, kind, 0);
+        thought.make(plan, kind, 0);
         thoughtStitches = -1;
     }
 
@@ -1034,31 +1035,15 @@ public final class LacePillow {
             for (int place = 2 * gap; place < 2 * gap + 4; place++) {
                 used[threads[place]]++;
             }
-            followWord(plan, kind, gap);
-        }
-
-        void followWord(Plan plan, int kind, int gap) {
             for (int i = 0; i < plan.lengths[kind]; i++) {
-                followLetter(plan.letters[kind * MOST_LETTERS + i], 2 * gap);
-            }
-        }
-
-        private void followLetter(int letter, int first) {
-            switch (letter) {
-                case 'c':
-                    cross(first + 1, 1);
-                    break;
-                case 'C':
-                    cross(first + 1, 2);
-                    break;
-                case 't':
-                    cross(first, 2);
-                    cross(first + 2, 2);
-                    break;
-                default:
-                    cross(first, 1);
-                    cross(first + 2, 1);
-                    break;
+                int letter = plan.letters[kind * MOST_LETTERS + i];
+                int sign = letter == 'c' || letter == 'T' ? 1 : 2;
+                if (letter == 'c' || letter == 'C') {
+                    cross(2 * gap + 1, sign);
+                } else {
+                    cross(2 * gap, sign);
+                    cross(2 * gap + 2, sign);
+                }
             }
         }
 
