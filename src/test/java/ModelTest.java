@@ -682,6 +682,7 @@ public final class ModelTest {
     private final LacePillow x = new LacePillow();
     private final Model m = new Model();
     private final int seed;
+    private final boolean dense;
     private int calls = 0;
     private int wrong = 0;
     private final List<String> trail = new ArrayList<>();
@@ -689,6 +690,7 @@ public final class ModelTest {
     private ModelTest(int seed) {
         this.seed = seed;
         this.random = new Random(seed);
+        this.dense = seed % 4 == 0;
     }
 
     /** Mostly 0 to n, at times just outside or far away. */
@@ -718,9 +720,9 @@ public final class ModelTest {
     }
 
     private String somePricking() {
-        int rows = 1 + random.nextInt(random.nextInt(4) == 0 ? 12 : 5);
+        int rows = 1 + random.nextInt(dense || random.nextInt(4) == 0 ? 12 : 5);
         if (random.nextInt(12) == 0) rows = 13;
-        int thick = 1 + random.nextInt(4);
+        int thick = dense ? 4 : 1 + random.nextInt(4);
         StringBuilder text = new StringBuilder();
         List<String> made = new ArrayList<>();
         for (int r = 0; r < rows; r++) {
@@ -790,6 +792,7 @@ public final class ModelTest {
 
     private void step() {
         int op = random.nextInt(52);
+        if (dense && op < 8 && random.nextInt(8) > 0) return;
         int n = size();
         int threads = 2 * m.pairs - 1;
         int a, b, c;
@@ -828,7 +831,7 @@ public final class ModelTest {
             case 36 -> { a = upTo(threads); b = upTo(threads); same("meet " + a + " " + b, x.meet(a, b), m.meet(a, b)); }
             case 37 -> { a = upTo(1); same("lacks " + a, x.lacks(a), m.lacks(a)); }
             case 38, 39 -> { a = upTo(1); b = upTo(3); same("lace " + a + " " + b, x.lace(a, b), m.lace(a, b)); }
-            case 40, 41 -> { a = upTo(1); b = upTo(random.nextInt(3) == 0 ? 100 : 8); c = upTo(2 * m.pairs - 2); same("layer " + a + " " + b + " " + c, x.layer(a, b, c), m.layer(a, b, c)); }
+            case 40, 41 -> { a = upTo(1); b = upTo(random.nextInt(3) == 0 ? 100 : dense ? 30 : 8); c = upTo(2 * m.pairs - 2); same("layer " + a + " " + b + " " + c, x.layer(a, b, c), m.layer(a, b, c)); }
             case 42 -> same("repeat", x.repeat(), m.repeat());
             case 43, 44 -> { a = upTo(3); b = 1 + random.nextInt(3); if (random.nextInt(5) > 0) fillSheet(a, 1 + random.nextInt(3), someMotif(b)); else b = 1 + upTo(6); c = upTo(1); same("motif " + a + " " + b + " " + c, x.motif(a, b, c), m.motif(a, b, c)); }
             case 45 -> { a = upTo(3); b = upTo(4) - 1; c = upTo(60); same("sheet " + a + " " + b + " " + c, x.sheet(a, b, c), m.sheet(a, b, c)); }
@@ -848,9 +851,13 @@ public final class ModelTest {
     }
 
     private int run() {
-        if (random.nextInt(2) == 0) {
-            int n = 2 + random.nextInt(7);
+        if (dense || random.nextInt(2) == 0) {
+            int n = dense ? 6 + random.nextInt(3) : 2 + random.nextInt(7);
             same("pairs " + n, x.pairs(n), m.pairs(n));
+        }
+        if (dense) {
+            feedText(somePricking());
+            same("read", x.read(), m.read());
         }
         for (int i = 0; i < 400 && calls < 420 && wrong == 0; i++) step();
         if (wrong > 0) for (String call : trail) System.out.println("    " + call);
