@@ -669,6 +669,15 @@ public final class PromisesTest {
         x.lay(11, 1, 1);
         due("28 C beside", x.lace(1, 1), 34);
         due("28 C on the ground", x.lace(1, 2), 23);
+        x = spelled(0, "T");
+        x.pairs(8);
+        x.lay(0, 0, 1);
+        x.lay(1, 1, 0);
+        due("28 uppermost at the first place alone", x.lace(1, 2), 2);
+        x.pairs(8);
+        x.lay(0, 6, 1);
+        x.lay(1, 5, 0);
+        due("28 uppermost at the last place alone", x.lace(1, 2), 2);
     }
 
     private static void layer() {
