@@ -330,6 +330,37 @@ public final class BoundsTest {
             told 4 = 2
             told 7 = 2
             """);
+        says(0, "Each act tells its ERRORS in the order in which they are asked", """
+            pairs 8
+            rows 5 a.a.a.a
+            read = 20
+            lay 5 0 0
+            lay 5 1 6 = BEYOND
+            order -1 21 = BEYOND
+            order -1 0 = FULL
+            rank 4 = BEYOND
+            rank 0 = FULL
+            wind 0 4
+            work 0 = 4
+            wind 0 -1 = BEYOND
+            work 8 = STATE
+            work 0 = STATE
+            work 4 = LACK
+            motif 0 8 0 = BEYOND
+            motif 0 1 2 = BEYOND
+            motif 0 1 1 = LOST
+            tell 0 3 9 9
+            motif 0 3 1 = STATE
+            motif 0 1 1 = NONE
+            sheet 4 0 -1 = BEYOND
+            sheet 0 4 -1 = BEYOND
+            sheet 0 0 -1 = STATE
+            put 4 -1 0 = BEYOND
+            number 4 -1 = BEYOND
+            bytes 120 0
+            feed 256 = BEYOND
+            feed 0 = FULL
+            """);
         says(0, "one that answers an ERROR changes nothing but what told() tells", """
             text a.b/.c.
             read = 3
@@ -428,6 +459,71 @@ public final class BoundsTest {
     }
 
     private static void letters() {
+        says(0, "what lies at PLACES i and i + 1 changes places; of SIGN 1: what came from the left goes over (the other one under), of SIGN 2: what came from the right", """
+            pairs 8
+            text T
+            spell 0
+            lay 0 0 0
+            lay 0 6 0
+            place 0 1 = 1
+            place 1 1 = 0
+            place 14 1 = 14
+            place 14 2 = 15
+            place 15 2 = 14
+            link 0 1 = 1
+            link 14 15 = 1
+            thread 0 5 = 1
+            thread 15 6 = 1
+            text t
+            spell 0
+            place 0 1 = 1
+            place 15 2 = 14
+            link 0 1 = -1
+            link 14 15 = -1
+            thread 0 6 = 1
+            thread 15 5 = 1
+            """);
+        says(0, "KINDS 0 to 5", """
+            lay 0 0 -2 = BEYOND
+            lay 0 0 0 = -1
+            lay 0 0 5 = 0
+            lay 0 0 6 = BEYOND
+            word -1 0 = BEYOND
+            word 6 0 = BEYOND
+            letter -1 0 = BEYOND
+            letter 6 0 = BEYOND
+            text c
+            spell -1 = BEYOND
+            spell 6 = BEYOND
+            spell 5 = 1
+            stitch 0 2 = 5
+            """);
+        says(0, "A STITCH is worked by the LETTERS of its KIND's WORD at its GAP, one behind the other", """
+            text tc
+            spell 0
+            lay 0 0 1
+            place 0 1 = 1
+            place 1 1 = 3
+            place 2 1 = 0
+            place 3 1 = 2
+            lay 0 0 0
+            place 0 1 = 2
+            place 1 1 = 0
+            place 2 1 = 3
+            place 3 1 = 1
+            text C
+            spell 0
+            place 0 1 = 0
+            place 1 1 = 2
+            lace 1 0 = 1
+            text ctctctct
+            spell 0
+            place 0 1 = 0
+            place 1 1 = 1
+            lace 1 0 = 12
+            work 0 = 12
+            at 3 = 3
+            """);
         says(0, "c a CROSSING of SIGN 1 at its second PLACE, C of SIGN 2 there", """
             text c
             spell 0
@@ -724,6 +820,24 @@ public final class BoundsTest {
             thread 0 3 = 16
             thread 15 3 = 16
             """);
+        says(0, "NEEDS: what it uses; OVERS, UNDERS: in how many CROSSINGS it goes over, under", """
+            pairs 2
+            thread 1 4 = 0
+            thread 1 5 = 0
+            thread 1 6 = 0
+            text cCcCcCcC
+            spell 0
+            rows 12 a
+            read = 12
+            thread 1 4 = 204
+            thread 1 5 = 96
+            thread 1 6 = 0
+            thread 2 4 = 108
+            thread 2 5 = 0
+            thread 2 6 = 96
+            thread 0 4 = 12
+            thread 3 4 = 12
+            """);
         says(0, "in which it goes over, as in the one ahead, or under, as in that; -1: none", """
             thread 0 7 = -1
             text c
@@ -790,6 +904,26 @@ public final class BoundsTest {
             wind 6 4
             lacks 0 = NONE
             """);
+        says(0, "ORDERS: all rows of all STITCHES in which each comes behind those AHEAD of it, numbered from 0 on, as rows of numbers are ordered (that with the lesser first number first, and so on)", """
+            text a.a/a..
+            read = 3
+            orders = 3
+            order 0 0 = 0
+            order 0 1 = 1
+            order 0 2 = 2
+            order 1 0 = 0
+            order 1 1 = 2
+            order 1 2 = 1
+            order 2 0 = 1
+            order 2 1 = 0
+            order 2 2 = 2
+            order 3 0 = NONE
+            order -1 0 = NONE
+            tell 0 2 0 2 1
+            rank 0 = 1
+            tell 0 2 2 0 1
+            rank 0 = STATE
+            """);
         says(0, "With more than 20 STITCHES they are not asked for (FULL)", """
             pairs 8
             rows 5 a.a.a.a
@@ -816,6 +950,11 @@ public final class BoundsTest {
             rows 12 a
             read = 12
             stitch 11 3 = 11
+            pairs 4
+            text a.a
+            read = 2
+            stitch 1 3 = 0
+            stitches 2 = 1
             """);
         says(0, "CHAIN: the most STITCHES of which each is AHEAD of the next", """
             stitches 2 = 0
@@ -842,6 +981,9 @@ public final class BoundsTest {
             text a....../..a..../....a../......a
             read = 4
             stitches 3 = 4
+            text ......a/....a../..a..../a......
+            read = 4
+            stitches 3 = 4
             pairs 2
             rows 12 a
             read = 12
@@ -850,6 +992,27 @@ public final class BoundsTest {
     }
 
     private static void laceTerms() {
+        says(0, "LACE: a row of CROSSINGS, of THE WORK (which 0) or of ALL (which 1), in the order worked", """
+            text a../.d.
+            read = 2
+            lace 0 0 = 0
+            lace 1 0 = 6
+            work 0 = 4
+            lace 0 0 = 4
+            lace 0 2 = 3
+            work 1 = 2
+            lace 0 0 = 6
+            layer 0 2 1 = 1
+            layer 0 2 2 = 0
+            layer 0 3 2 = 2
+            layer 0 0 4 = 2
+            layer 1 3 2 = 2
+            lace -1 0 = BEYOND
+            lace 2 0 = BEYOND
+            back = 1
+            lace 0 0 = 4
+            lace 1 0 = 6
+            """);
         says(0, "two CROSSINGS at one PLACE i of unlike SIGNS, between which none is at i - 1, i, i + 1, are taken out", """
             text c
             spell 0
@@ -891,6 +1054,14 @@ public final class BoundsTest {
             spell 0
             word 0 1 = 12
             word 0 2 = 0
+            text ccccCCCC
+            spell 0
+            word 0 2 = 0
+            text ccCc
+            spell 0
+            lay 0 0 0
+            lace 1 1 = 2
+            lace 1 2 = 2
             text cTcT
             spell 0
             text tCtC
@@ -1425,6 +1596,11 @@ public final class BoundsTest {
             word 1 7 = 2
             pairs 2
             word 1 7 = 2
+            lay 0 0 5
+            rounds = 1
+            word 1 3 = 4
+            rounds = 1
+            thread 3 5 = 0
             """);
         says(8, "BEYOND", """
             word -1 0 = BEYOND
@@ -1622,6 +1798,15 @@ public final class BoundsTest {
             orders = 11732745024
             lay 0 0 -1
             orders = 2933186256
+            text a.a.a.a/a.a.a../a.a..../a......
+            read = 10
+            orders = 12600
+            text a.a.a.a/..a.a.a/....a.a/......a
+            read = 10
+            orders = 12600
+            text a.a.a.a/a.a...a/..a...a/..a....
+            read = 10
+            orders = 12600
             pairs 2
             rows 12 a
             read = 12
@@ -1891,6 +2076,16 @@ public final class BoundsTest {
             told 1 = 0
             told 3 = 0
             told 6 = 0
+            new
+            text a.a
+            read = 2
+            fill 0 3 3 0 0
+            sheet 0 3 0
+            works 0 = 0
+            stitches 5 = 0
+            tell 0 3 1
+            works 0 = 1
+            stitches 5 = 1
             new
             pairs 8
             rows 12 a.a.a.a
@@ -2287,6 +2482,20 @@ public final class BoundsTest {
             lace 0 2 = 96
             lace 0 3 = 768
             layer 0 95 14 = 1
+            """);
+        says(28, "2 how many LAYERS these have", """
+            text T
+            spell 0
+            pairs 8
+            lay 0 0 1
+            lay 1 1 0
+            lace 1 1 = 3
+            lace 1 2 = 2
+            pairs 8
+            lay 0 6 1
+            lay 1 5 0
+            lace 1 1 = 3
+            lace 1 2 = 2
             """);
         says(28, "BEYOND", """
             lace -1 0 = BEYOND
@@ -2756,6 +2965,10 @@ public final class BoundsTest {
             text zz
             restore = 1
             count 0 = 8
+            stitches 0 = 2
+            stitch 1 1 = 6
+            orders = 2
+            thread 15 6 = 8
             look 0 6 = 5
             look 11 0 = -1
             word 5 0 = 8
@@ -2771,6 +2984,19 @@ public final class BoundsTest {
             back = NONE
             restore = 1
             told 2 = 1
+            new
+            text a.a
+            read = 2
+            work 1 = 4
+            work 0 = 4
+            image = 2
+            back = 0
+            back = 1
+            work 0 = 4
+            work 1 = 4
+            restore = 2
+            worked 0 = 1
+            worked 1 = 0
             """);
         says(36, "NONE: there is none", """
             restore = NONE
