@@ -13,7 +13,8 @@ import java.util.Set;
 
 /**
  * Each sentence of the document that names a boundary case, with a run of calls of its own, reckoned
- * by hand. A run has a call in each line, with the answer that is due behind '='; without one it must
+ * by hand (but for the prickings whose ROUNDS are 16 and 140: they were searched for with the class,
+ * and reckoned again apart from it). A run has a call in each line, with the answer that is due behind '='; without one it must
  * not be refused. Besides calls there are: 'new' (another object), 'text t' (each byte of t is fed),
  * 'bytes n b' (b is fed n times), 'rows n t' (t is fed n times, with / between), 'tell sheet sort
  * numbers', 'fill sheet sort n v d' (n numbers v, v + d, ..).
